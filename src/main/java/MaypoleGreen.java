@@ -12,6 +12,7 @@ public final class MaypoleGreen {
     private static final int MOST_FEAST_BYTES = 300;
     private static final int MOST_DANCERS = 7;
     private static final int MOST_LETTERS = 8;
+    private static final int MOST_DIGITS = 4;
     private static final int MOST_PASSES = 40;
     private static final int MOST_COLOUR = 5;
     private static final int NO_COLOUR = 6;
@@ -290,7 +291,8 @@ public final class MaypoleGreen {
         if (!isGap(gap)) {
             return fail(WRONG_NUMBER);
         }
-        return now.doPass(gap, over ? 1 : 0) ? give(now.plait.size) : fail(CANNOT_BE);
+        int made = now.makePass(over ? 2 * gap + 1 : 2 * gap);
+        return made == NONE ? fail(CANNOT_BE) : give(now.plait.size);
     }
 
     public int back() {
@@ -298,7 +300,7 @@ public final class MaypoleGreen {
     }
 
     public int weave() {
-        int done = now.weaveOnce();
+        int done = now.weaveTimes(1);
         return done == 0 ? fail(CANNOT_BE) : give(done);
     }
 
@@ -423,7 +425,7 @@ public final class MaypoleGreen {
         if (problem != FINE) {
             return fail(problem);
         }
-        lookAhead(tray, n, k);
+        outlook.search(trays[tray], n, trial(), k);
         return give(outlook.rows);
     }
 
@@ -435,7 +437,7 @@ public final class MaypoleGreen {
         if (place >= k) {
             return fail(NONE_SUCH);
         }
-        lookAhead(tray, n, k);
+        outlook.search(trays[tray], n, trial(), k);
         return outlook.rows == 0 ? fail(NONE_SUCH) : give(outlook.first[place]);
     }
 
@@ -444,7 +446,7 @@ public final class MaypoleGreen {
         if (problem != FINE) {
             return fail(problem);
         }
-        lookAhead(tray, n, k);
+        outlook.search(trays[tray], n, trial(), k);
         int gap = outlook.partingGap();
         return gap == NONE ? fail(NONE_SUCH) : give(gap);
     }
@@ -453,16 +455,14 @@ public final class MaypoleGreen {
         if (!isWithin(n, 0, MOST_TURNS)) {
             return fail(WRONG_NUMBER);
         }
-        spare.copyFrom(now);
-        return give(Play.worth(spare, n, true));
+        return give(Play.worth(trial(), n, true));
     }
 
     public int moveOf(int n) {
         if (!isWithin(n, 1, MOST_TURNS)) {
             return fail(WRONG_NUMBER);
         }
-        spare.copyFrom(now);
-        int move = Play.opening(spare, n);
+        int move = Play.opening(trial(), n);
         return move == NONE ? fail(NONE_SUCH) : give(move);
     }
 
@@ -523,7 +523,8 @@ public final class MaypoleGreen {
         }
         int came = now.came;
         int undone = now.undone;
-        life.liveThrough(now, now.feasts, seed);
+        life.begin(now, now.feasts, seed);
+        life.doBlock(0, now.feasts.count, 0);
         lastLived[0] = life.missed;
         lastLived[2] = now.came - came;
         lastLived[3] = now.undone - undone;
@@ -550,7 +551,8 @@ public final class MaypoleGreen {
         int sum = 0;
         for (int k = 0; k < many; k++) {
             spare.copyFrom(now);
-            life.liveThrough(spare, now.feasts, seed + k);
+            life.begin(spare, now.feasts, seed + k);
+            life.doBlock(0, now.feasts.count, 0);
             sum += spare.plait.size;
         }
         chances.set(sum, many);
@@ -683,10 +685,9 @@ public final class MaypoleGreen {
         return faultKind == 0;
     }
 
-    private void lookAhead(int tray, int n, int k) {
+    private Green trial() {
         spare.copyFrom(now);
-        outlook.want(trays[tray], n);
-        outlook.search(spare, k);
+        return spare;
     }
 
     /**
@@ -796,7 +797,7 @@ public final class MaypoleGreen {
                 int other = row[k] & 7;
                 if ((touching >> other & 1) != 0) {
                     // the latest that TOUCHES is FREE; if it is in another GAP, it lies over all in this one
-                    return other == gap && overAt(k) != over ? k : NONE;
+                    return other == gap && (row[k] >> 3 & 1) != over ? k : NONE;
                 }
             }
             return NONE;
@@ -967,19 +968,35 @@ public final class MaypoleGreen {
             return plait.size < MOST_PASSES && left(standing[gap]) > 0 && left(standing[nextPlace(gap)]) > 0;
         }
 
-        boolean doPass(int gap, int over) {
+        /** A PASS (GAP twice, 1 more if it is over): NONE if it can't be, else what takeBack() needs. */
+        int makePass(int code) {
+            int gap = code >> 1;
+            int over = code & 1;
             int undoes = plait.undoneBy(gap, over, touching(gap));
             if (undoes != NONE) {
+                int gone = plait.row[undoes];
                 removePass(undoes);
                 undone++;
-                return true;
+                return 1 + (undoes << 10 | gone);
             }
             if (!canAdd(gap)) {
-                return false;
+                return NONE;
             }
-            addPass(gap, over);
+            int first = standing[gap];
+            int second = standing[nextPlace(gap)];
+            int upper = over == 1 ? first : second;
+            insertPass(plait.size, Plait.packed(gap, over, upper, first + second - upper));
             came++;
-            return true;
+            return 0;
+        }
+
+        /** Undoes a PASS that was only tried; how many were done is not taken back. */
+        void takeBack(int made) {
+            if (made == 0) {
+                removePass(plait.size - 1);
+            } else if (made > 0) {
+                insertPass(made - 1 >> 10, made - 1 & 1023);
+            }
         }
 
         boolean doBack() {
@@ -991,28 +1008,28 @@ public final class MaypoleGreen {
             return true;
         }
 
-        int weaveOnce() {
+        /** How many PASSES are done by so many WEAVES. */
+        int weaveTimes(int times) {
             int done = 0;
             int gaps = gaps();
-            for (int gap = 0; gap < gaps; gap += 2) {
-                boolean meetsFirst = gap > 0 && (touching(gap) & 1) != 0;
-                if (!meetsFirst && doPass(gap, 1)) {
-                    done++;
+            boolean moving = true;
+            for (int time = 0; time < times && moving; time++) {
+                int before = done;
+                for (int gap = 0; gap < gaps; gap += 2) {
+                    boolean meetsFirst = gap > 0 && (touching(gap) & 1) != 0;
+                    if (!meetsFirst && makePass(2 * gap + 1) != NONE) {
+                        done++;
+                    }
                 }
-            }
-            for (int gap = 1; gap < gaps; gap += 2) {
-                if (doPass(gap, 0)) {
-                    done++;
+                for (int gap = 1; gap < gaps; gap += 2) {
+                    if (makePass(2 * gap) != NONE) {
+                        done++;
+                    }
                 }
+                // behind one that does nothing, the next would find all as it was
+                moving = done > before;
             }
             return done;
-        }
-
-        private void addPass(int gap, int over) {
-            int first = standing[gap];
-            int second = standing[nextPlace(gap)];
-            int pass = over == 1 ? Plait.packed(gap, 1, first, second) : Plait.packed(gap, 0, second, first);
-            insertPass(plait.size, pass);
         }
 
         private void insertPass(int k, int pass) {
@@ -1036,31 +1053,6 @@ public final class MaypoleGreen {
             standing[next] = first;
             places[first] = next;
             places[standing[gap]] = gap;
-        }
-
-        /** A PASS on trial (GAP twice, 1 more if it is over): NONE if it can't be, else what takeBack() needs. */
-        int tryPass(int code) {
-            int gap = code >> 1;
-            int over = code & 1;
-            int undoes = plait.undoneBy(gap, over, touching(gap));
-            if (undoes != NONE) {
-                int gone = plait.row[undoes];
-                removePass(undoes);
-                return 1 + (undoes << 10 | gone);
-            }
-            if (!canAdd(gap)) {
-                return NONE;
-            }
-            addPass(gap, over);
-            return 0;
-        }
-
-        void takeBack(int trial) {
-            if (trial == 0) {
-                removePass(plait.size - 1);
-            } else if (trial > 0) {
-                insertPass(trial - 1 >> 10, trial - 1 & 1023);
-            }
         }
 
         /** What would SHOW in the GAP of a PASS behind it (NO_COLOUR, too), NONE if it can't be. */
@@ -1264,7 +1256,6 @@ public final class MaypoleGreen {
         final int[] first = new int[MOST_AHEAD];
         private Green trial;
         private int gaps;
-        private boolean clash;
         private final int[] path = new int[MOST_AHEAD];
         /** By GAP: the COLOUR that must SHOW, NONE for whatever SHOWS. */
         private final int[] wanted = new int[MOST_DANCERS];
@@ -1273,23 +1264,26 @@ public final class MaypoleGreen {
         /** By GAP and COLOUR: with how many rows that SHOWS. */
         private final int[] parted = new int[MOST_DANCERS * (NO_COLOUR + 1)];
 
-        void want(Tray tray, int n) {
+        /** Whether no GAP must SHOW two things at once. */
+        private boolean want(Tray seen, int n) {
             Arrays.fill(wanted, NONE);
-            clash = false;
             for (int k = 0; k < n; k++) {
-                int gap = (int) tray.cells[2 * k];
-                int colour = (int) tray.cells[2 * k + 1];
-                clash = clash || !suits(gap, colour);
+                int gap = (int) seen.cells[2 * k];
+                int colour = (int) seen.cells[2 * k + 1];
+                if (!suits(gap, colour)) {
+                    return false;
+                }
                 wanted[gap] = colour;
             }
+            return true;
         }
 
-        void search(Green from, int k) {
+        void search(Tray seen, int n, Green from, int k) {
             trial = from;
             gaps = from.gaps();
             rows = 0;
             Arrays.fill(parted, 0);
-            if (!clash) {
+            if (want(seen, n)) {
                 extend(0, k);
             }
         }
@@ -1331,11 +1325,11 @@ public final class MaypoleGreen {
                 return;
             }
             for (int code = 0; code < 2 * gaps; code++) {
-                int tried = trial.tryPass(code);
-                if (tried != NONE) {
+                int made = trial.makePass(code);
+                if (made != NONE) {
                     path[depth] = code;
                     extend(depth + 1, k);
-                    trial.takeBack(tried);
+                    trial.takeBack(made);
                 }
             }
         }
@@ -1396,11 +1390,11 @@ public final class MaypoleGreen {
             int best = worth(trial, turns - 1, !caller);
             int codes = 2 * trial.gaps();
             for (int code = 0; code < codes; code++) {
-                int tried = trial.tryPass(code);
-                if (tried != NONE) {
+                int made = trial.makePass(code);
+                if (made != NONE) {
                     int other = worth(trial, turns - 1, !caller);
                     best = caller ? Math.max(best, other) : Math.min(best, other);
-                    trial.takeBack(tried);
+                    trial.takeBack(made);
                 }
             }
             return best;
@@ -1412,10 +1406,10 @@ public final class MaypoleGreen {
             int move = NONE;
             int codes = 2 * trial.gaps();
             for (int code = 0; code < codes; code++) {
-                int tried = trial.tryPass(code);
-                if (tried != NONE) {
+                int made = trial.makePass(code);
+                if (made != NONE) {
                     int other = worth(trial, turns - 1, false);
-                    trial.takeBack(tried);
+                    trial.takeBack(made);
                     if (other > best) {
                         best = other;
                         move = code;
@@ -1530,7 +1524,7 @@ public final class MaypoleGreen {
         private int drawn;
         private boolean halted;
 
-        void liveThrough(Green where, Feasts what, int seed) {
+        void begin(Green where, Feasts what, int seed) {
             green = where;
             feasts = what;
             drawn = seed;
@@ -1538,9 +1532,9 @@ public final class MaypoleGreen {
             missed = 0;
             left = 0;
             halted = false;
-            doBlock(0, feasts.count, 0);
         }
 
+        /** Does the STEPS from one on, ahead of another one. */
         private void doBlock(int from, int to, int depth) {
             for (int step = from; step < to && !halted; step = Math.max(step + 1, feasts.behind[step])) {
                 if (steps >= MOST_LIVED || depth > MOST_NESTED) {
@@ -1557,9 +1551,9 @@ public final class MaypoleGreen {
             int first = feasts.firsts[step];
             int second = feasts.seconds[step];
             switch (feasts.kinds[step]) {
-                case PASS: count(green.doPass(first, second)); break;
+                case PASS: count(green.makePass(2 * first + second) != NONE); break;
                 case BACK: count(green.doBack()); break;
-                case WEAVE: count(weaveTimes(first)); break;
+                case WEAVE: count(green.weaveTimes(first) > 0); break;
                 case PAINT: count(repaint(first, second)); break;
                 case ANY: count(passAny()); break;
                 case WHEN:
@@ -1582,18 +1576,6 @@ public final class MaypoleGreen {
             }
         }
 
-        private boolean weaveTimes(int times) {
-            int done = 0;
-            // behind one that does nothing, the next would find all as it was
-            boolean moving = true;
-            for (int time = 0; time < times && moving; time++) {
-                int more = green.weaveOnce();
-                moving = more > 0;
-                done += more;
-            }
-            return done > 0;
-        }
-
         private boolean repaint(int dancer, int colour) {
             if (green.colours[dancer] == colour) {
                 return false;
@@ -1610,7 +1592,7 @@ public final class MaypoleGreen {
             int gap = drawBy(gaps);
             int over = drawBy(2);
             boolean slips = drawBy(16) < green.odds;
-            return green.doPass(gap, slips ? 1 - over : over);
+            return green.makePass(2 * gap + (slips ? 1 - over : over)) != NONE;
         }
 
         private int drawBy(int n) {
@@ -1668,7 +1650,7 @@ public final class MaypoleGreen {
                     many++;
                     packed = 0;
                 } else {
-                    packed = withLetter(packed, letter);
+                    packed = packed << 5 | letter - 'a' + 1;
                 }
             }
         }
@@ -1689,9 +1671,9 @@ public final class MaypoleGreen {
             start = at;
             if (at >= length) {
                 kind = TEXT_END;
-            } else if (isLetter(text[at])) {
+            } else if (text[at] >= 'a' && text[at] <= 'z') {
                 advanceWord();
-            } else if (isDigit(text[at])) {
+            } else if (text[at] >= '0' && text[at] <= '9') {
                 advanceNumber();
             } else {
                 sign = text[at];
@@ -1703,31 +1685,19 @@ public final class MaypoleGreen {
         private void advanceWord() {
             kind = WORD;
             word = 0;
-            while (at < length && isLetter(text[at])) {
-                word = at - start < MOST_LETTERS ? withLetter(word, text[at]) : 0;
+            while (at < length && text[at] >= 'a' && text[at] <= 'z') {
+                word = at - start < MOST_LETTERS ? word << 5 | text[at] - 'a' + 1 : 0;
                 at++;
             }
         }
 
         private void advanceNumber() {
             number = 0;
-            while (at < length && isDigit(text[at])) {
-                number = at - start < 4 ? number * 10 + text[at] - '0' : 0;
+            while (at < length && text[at] >= '0' && text[at] <= '9') {
+                number = at - start < MOST_DIGITS ? number * 10 + text[at] - '0' : 0;
                 at++;
             }
-            kind = at - start > 4 ? BAD : NUMBER;
-        }
-
-        private static boolean isLetter(int sign) {
-            return sign >= 'a' && sign <= 'z';
-        }
-
-        private static boolean isDigit(int sign) {
-            return sign >= '0' && sign <= '9';
-        }
-
-        private static long withLetter(long packed, int letter) {
-            return packed << 5 | letter - 'a' + 1;
+            kind = at - start > MOST_DIGITS ? BAD : NUMBER;
         }
 
         /** A FAULT at this TOKEN; gives false, so that a reader can end with it. */
@@ -1914,7 +1884,7 @@ public final class MaypoleGreen {
             if (over == NONE) {
                 return tokens.blame(MISPLACED);
             }
-            if (!green.doPass(gap, over)) {
+            if (green.makePass(2 * gap + over) == NONE) {
                 return tokens.blame(NOT_NOW);
             }
             tokens.advance();
@@ -1966,7 +1936,8 @@ public final class MaypoleGreen {
                 open++;
             }
             tokens.advance();
-            return takeRest(step, kind) && tokens.takeSemicolon();
+            int form = kind == WHEN ? testForm(step) : kind;
+            return takeRest(step, form) && tokens.takeSemicolon();
         }
 
         private static boolean isStep(int word) {
@@ -1974,29 +1945,30 @@ public final class MaypoleGreen {
                     || word == ANY || word == WHEN || word == LOOP || word == STOP;
         }
 
-        private boolean takeRest(int step, int kind) {
-            switch (kind) {
+        /** The WORD that begins a TEST, or WHEN if none stands here. */
+        private int testForm(int step) {
+            int test = tokens.reservedWord();
+            if (test != HOME && test != AT && test != SHOWS && test != PLAIT) {
+                return WHEN;
+            }
+            feasts.tests[step] = test;
+            tokens.advance();
+            return test;
+        }
+
+        /** What stands behind the WORD of a STEP, or of its TEST. */
+        private boolean takeRest(int step, int form) {
+            switch (form) {
                 case PASS: return takeFirst(step, 0, green.gaps() - 1) && takeHow(step);
                 case WEAVE: return takeFirst(step, 1, MOST_WEAVES);
                 case PAINT: return takeKnown(step) && takeSecond(step, 0, MOST_COLOUR);
                 case LOOP: return takeFirst(step, 1, MOST_LOOPS);
-                case WHEN: return takeTest(step);
-                default: return true;
-            }
-        }
-
-        private boolean takeTest(int step) {
-            int test = tokens.reservedWord();
-            if (test != HOME && test != AT && test != SHOWS && test != PLAIT) {
-                return tokens.blame(MISPLACED);
-            }
-            feasts.tests[step] = test;
-            tokens.advance();
-            switch (test) {
                 case HOME: return takeKnown(step);
                 case AT: return takeKnown(step) && takeSecond(step, 0, green.dancers - 1);
                 case SHOWS: return takeFirst(step, 0, green.gaps() - 1) && takeSecond(step, 0, NO_COLOUR);
-                default: return takeCompares(step) && takeSecond(step, 0, MOST_PASSES);
+                case PLAIT: return takeCompares(step) && takeSecond(step, 0, MOST_PASSES);
+                case WHEN: return tokens.blame(MISPLACED);
+                default: return true;
             }
         }
 
