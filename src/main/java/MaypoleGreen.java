@@ -1926,9 +1926,6 @@ public final class MaypoleGreen {
             }
             int step = feasts.count;
             feasts.kinds[step] = kind;
-            feasts.tests[step] = NONE;
-            feasts.firsts[step] = 0;
-            feasts.seconds[step] = 0;
             feasts.behind[step] = step + 1;
             feasts.count++;
             if (opens) {

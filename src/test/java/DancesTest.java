@@ -104,6 +104,12 @@ public final class DancesTest {
         everyCall(x, 0, 3, 5);
         x.write(0, 2, -1);
         everyCall(x, 0, 3, 5);
+        x.write(0, 2, 0);
+        x.write(0, 1, 6);
+        everyCall(x, 0, 3, 5);
+        x.write(0, 1, 5);
+        CHECK.due(x, "5 is the last that can be", x.same(0, 3), 0, 0);
+        x.write(0, 2, 6);
         CHECK.due(x, "numbers behind the dance do not matter", x.same(0, 2), 0, 0);
         // too few goes ahead of a number that can't be
         everyCall(x, 0, 4, 3);

@@ -62,6 +62,20 @@ public final class FeastsTest {
         lives(Check.ring(1), "weave 3;any;back;", 0, 3, 3, 0, 0, 0, 0);
         lives(Check.ring(2), "pass 0 over;stop;pass 0 over;", 0, 2, 0, 1, 1, 0, 0);
         lives(Check.ring(2), "", 0, 0, 0, 0, 0, 0, 0);
+        lives(Check.ring(2), "weave 1;", 0, 1, 0, 1, 1, 0, 0);
+        x = lives(Check.ring(4), "pass 2 under;pass 3 over;", 0, 2, 0, 2, 2, 0, 0);
+        CHECK.due("gap", x.plait(0, 0), 2);
+        CHECK.due("under", x.plait(0, 1), 0);
+        CHECK.due("gap", x.plait(1, 0), 3);
+        CHECK.due("over", x.plait(1, 1), 1);
+        // lived() is of the latest alone
+        Check.feasts(x, "back;");
+        x.live(0);
+        CHECK.due("lived(1)", x.lived(1), 1);
+        CHECK.due("lived(2)", x.lived(2), 0);
+        CHECK.due("lived(3)", x.lived(3), 1);
+        x.live(0);
+        CHECK.due("lived(3)", x.lived(3), 1);
     }
 
     private static void draws() {
@@ -73,6 +87,7 @@ public final class FeastsTest {
         CHECK.due("15 is not below 15", x.plait(0, 1), 1);
         x = lives("odds 16;" + Check.ring(3), "any;", 0, 1, 0, 1, 1, 0, 0);
         CHECK.due("15 is below 16", x.plait(0, 1), 0);
+        CHECK.due("gap", x.plait(0, 0), 2);
         // and on: 13836, 21537, 30282; by 8: 1729, 2692, 3785; by 3: 1, by 2: 0, by 16: 9
         x = lives("odds 9;" + Check.ring(3), "any;any;", 0, 2, 0, 2, 2, 0, 0);
         CHECK.due("gap", x.plait(1, 0), 1);

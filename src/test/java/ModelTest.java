@@ -99,24 +99,10 @@ public final class ModelTest {
         return n <= 0 ? 0 : below(n);
     }
 
-    private int dancers() throws Exception {
-        return (int) PLAIN.get("told").invoke(plain, 0);
-    }
-
-    private int gaps() throws Exception {
-        return (int) PLAIN.get("told").invoke(plain, 1);
-    }
-
-    private int plaitSize() throws Exception {
-        return (int) PLAIN.get("told").invoke(plain, 2);
-    }
-
     private void step(String name) throws Exception {
-        int n = dancers();
-        int gaps = gaps();
-        int plait = plaitSize();
-        // told() above changed the plain model's STATUS alone
-        call("told", 0);
+        int n = plain.dancersNow();
+        int gaps = plain.gapsNow();
+        int plait = plain.plaitNow();
         switch (name) {
             case "tray" -> call(name, about(4), about(4), below(3) == 0 ? about(61) : about(12));
             case "write" -> call(name, about(4), about(10), below(2) == 0 ? (long) about(14) : random.nextLong());
@@ -190,8 +176,7 @@ public final class ModelTest {
     private void danceTray(int plait, int gaps) throws Exception {
         List<Integer> dance = new ArrayList<>();
         for (int k = 0; k < plait; k++) {
-            int gap = (int) PLAIN.get("plait").invoke(plain, k, 0);
-            dance.add(2 * gap + (int) PLAIN.get("plait").invoke(plain, k, 1));
+            dance.add(plain.codeNow(k));
         }
         for (int changes = below(4); changes > 0 && gaps > 0; changes--) {
             int at = dance.isEmpty() ? 0 : below(dance.size());
@@ -238,9 +223,9 @@ public final class ModelTest {
         call("tray", tray, below(4), 2 * n + below(3));
         for (int k = 0; k < n; k++) {
             int gap = about(gaps);
-            int shown = gap < 0 || gap >= gaps ? 0 : (int) PLAIN.get("shows").invoke(plain, gap);
+            int shown = gap < 0 || gap >= gaps ? 0 : plain.shownNow(gap);
             call("write", tray, 2 * k, (long) gap);
-            call("write", tray, 2 * k + 1, (long) (below(2) == 0 ? about(7) : shown < 0 ? 6 : shown));
+            call("write", tray, 2 * k + 1, (long) (below(2) == 0 ? about(7) : shown));
         }
         int k = ahead(gaps);
         call("fits", tray, n, k);
@@ -292,8 +277,8 @@ public final class ModelTest {
     }
 
     private void block(StringBuilder b, int depth, int many) throws Exception {
-        int gaps = gaps();
-        int n = dancers();
+        int gaps = plain.gapsNow();
+        int n = plain.dancersNow();
         for (int k = 0; k < many; k++) {
             switch (below(10)) {
                 case 0 -> b.append("back;");

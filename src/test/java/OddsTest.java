@@ -133,8 +133,9 @@ public final class OddsTest {
         CHECK.due("nothing is written", x.read(0, 0), 77);
         x.tray(0, 0, 5);
         x.write(0, 4, 77);
+        x.paint(0, 3);
         CHECK.due(x, "copyShows(0)", x.copyShows(0), 4, 0);
-        int[] due = {0, 6, 6, 1, 77};
+        int[] due = {3, 6, 6, 1, 77};
         for (int k = 0; k < due.length; k++) {
             CHECK.due("read(0, " + k + ")", x.read(0, k), due[k]);
         }

@@ -300,6 +300,28 @@ final class PlainGreen {
         return bottom;
     }
 
+    // ---- for ModelTest, without a STATUS
+
+    int dancersNow() {
+        return now.n();
+    }
+
+    int gapsNow() {
+        return now.gaps();
+    }
+
+    int plaitNow() {
+        return now.plait.size();
+    }
+
+    int codeNow(int k) {
+        return now.word().charAt(k);
+    }
+
+    int shownNow(int gap) {
+        return now.shows(gap);
+    }
+
     // ---- TRAYS
 
     public boolean tray(int tray, int sort, int many) {

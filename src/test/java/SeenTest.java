@@ -41,6 +41,15 @@ public final class SeenTest {
         CHECK.none(x, "twice unlike: no row", x.fitsAt(0, 2, 1, 0), 6);
         CHECK.none(x, "twice unlike: nothing to ask", x.ask(0, 2, 1), 6);
         CHECK.due("nothing changes by it", x.told(2), 0);
+        // what shows already shows behind rows that do not change it: b over a in gap 0
+        x.pass(0, false);
+        Check.fill(x, 0, 0, 1);
+        CHECK.due(x, "fits by none", x.fits(0, 1, 0), 1, 0);
+        CHECK.due(x, "a pass in another gap", x.fits(0, 1, 1), 4, 0);
+        CHECK.due(x, "the first of them", x.fitsAt(0, 1, 1, 0), 2, 0);
+        Check.fill(x, 0, 0, 0);
+        CHECK.due(x, "a over b: b stands in place 0 now", x.fits(0, 1, 1), 1, 0);
+        CHECK.due(x, "a over b", x.fitsAt(0, 1, 1, 0), 0, 0);
     }
 
     private static void asked() {
@@ -120,6 +129,15 @@ public final class SeenTest {
         CHECK.due(x, "numbers behind them do not matter", x.fits(0, 0, 1), 6, 0);
         CHECK.none(x, "place below 0 ahead of a missing tray", x.fitsAt(1, 0, 0, -1), 1);
         CHECK.none(x, "a tray's number ahead of a place too far", x.fitsAt(0, 1, 1, 9), 5);
+        // each of the twos is looked at
+        for (int two = 0; two < 4; two++) {
+            x.tray(2, 0, 8);
+            x.write(2, 2 * two, 3);
+            everyCall(x, 2, 4, 1, 5);
+            x.tray(2, 0, 8);
+            x.write(2, 2 * two + 1, 7);
+            everyCall(x, 2, 4, 1, 5);
+        }
         // 20 twos can be
         x.tray(2, 3, 40);
         CHECK.due(x, "20 times gap 0, colour 0", x.fits(2, 20, 1), 1, 0);

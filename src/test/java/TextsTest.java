@@ -185,6 +185,8 @@ public final class TextsTest {
         // with a fault those ahead stay
         faulty(x, false, "any", 2, 3);
         CHECK.due(x, "live(0)", x.live(0), 2, 0);
+        // exactly 300 bytes can be
+        CHECK.due(x, "300 bytes", Check.feasts(x, "any;" + " ".repeat(291) + "back;"), 2, 0);
         // who came has no name
         x = new MaypoleGreen();
         x.come(1);

@@ -98,6 +98,7 @@ public final class TraysTest {
             CHECK.no(x, "write(.., -1, 0)", x.write(sort, -1, 0), 3);
             CHECK.none(x, "read(.., 2)", x.read(sort, 2), 3);
             CHECK.none(x, "read(.., -1)", x.read(sort, -1), 3);
+            CHECK.due(x, "read(.., 1)", x.read(sort, 1), cut[sort], 0);
         }
         x.tray(0, 0, 1);
         x.write(0, 0, 128);

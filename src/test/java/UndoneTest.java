@@ -133,6 +133,9 @@ public final class UndoneTest {
             CHECK.due(x, "meet(0, " + other + ")", x.meet(0, other), due[other], 0);
             CHECK.due(x, "meet(" + other + ", 0)", x.meet(other, 0), due[other], 0);
         }
+        CHECK.due(x, "meet(2, 4)", x.meet(2, 4), 1, 0);
+        CHECK.due(x, "meet(5, 4)", x.meet(5, 4), 0, 0);
+        CHECK.due(x, "meet(6, 2)", x.meet(6, 2), 2, 0);
         CHECK.none(x, "meet(0, 0)", x.meet(0, 0), 1);
         CHECK.none(x, "meet(0, 7)", x.meet(0, 7), 1);
         CHECK.none(x, "meet(-1, 0)", x.meet(-1, 0), 1);
