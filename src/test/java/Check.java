@@ -1,18 +1,57 @@
-/** What the tests share: due answers, and texts that are fed to the tape. */
+import java.util.function.IntToLongFunction;
+
+/** What the tests share: due answers, sentences of the document, and texts that are fed to the tape. */
 final class Check {
     private final String about;
+    private final Document document;
+    private String sentence = "";
+    private int askedBefore = 0;
     private int asked = 0;
     private int wrong = 0;
 
     Check(String about) {
+        this(about, null);
+    }
+
+    Check(String about, Document document) {
         this.about = about;
+        this.document = document;
+    }
+
+    /** What is asked from here on holds this sentence of the document against the class. */
+    void says(String quote) {
+        closeSentence();
+        sentence = quote;
+        if (!document.quote(quote)) {
+            complain("is not in the document");
+        }
+    }
+
+    private void closeSentence() {
+        if (!sentence.isEmpty() && asked == askedBefore) {
+            complain("is quoted, but nothing is asked");
+        }
+        askedBefore = asked;
+    }
+
+    private void complain(String what) {
+        wrong++;
+        System.out.println(about + ": " + what + (sentence.isEmpty() ? "" : " [" + sentence + "]"));
+    }
+
+    /** Every sentence of the document must have been quoted. */
+    void allIsQuoted() {
+        closeSentence();
+        sentence = "";
+        for (String passage : document.unquoted()) {
+            complain("no test quotes: " + passage);
+        }
     }
 
     void due(String call, long got, long want) {
         asked++;
         if (got != want) {
-            wrong++;
-            System.out.println(about + ": " + call + " answered " + got + ", due is " + want);
+            complain(call + " answered " + got + ", due is " + want);
         }
     }
 
@@ -46,6 +85,53 @@ final class Check {
         due(call + ": bottom()", x.bottom(), bottom);
     }
 
+    /** A number of a call: from least to most it can be, beside these and farthest off it has STATUS 1. */
+    void range(MaypoleGreen x, String call, int least, int most, IntToLongFunction act) {
+        for (int v : new int[] {Integer.MIN_VALUE, least - 1, most + 1, Integer.MAX_VALUE}) {
+            none(x, call + " with " + v, act.applyAsLong(v), 1);
+        }
+        for (int v : new int[] {least, most}) {
+            act.applyAsLong(v);
+            due(call + " with " + v + ": STATUS 1", x.status() == 1, false);
+        }
+    }
+
+    /** So that range() can look at calls that give a boolean, too. */
+    static long orNone(boolean granted) {
+        return granted ? 1 : MaypoleGreen.NONE;
+    }
+
+    private void faulty(MaypoleGreen x, String text, int got, int kind, int place) {
+        none(x, text, got, 9);
+        due(text + ": fault(0)", x.fault(0), kind);
+        due(text + ": fault(1)", x.fault(1), place);
+    }
+
+    /** A GREEN with a FAULT, of a new object. */
+    void greenFault(String text, int kind, int place) {
+        MaypoleGreen x = new MaypoleGreen();
+        faulty(x, text, green(x, text), kind, place);
+    }
+
+    /** A GREEN without a FAULT, of a new object that is handed back. */
+    MaypoleGreen greenFine(String text, int dancers) {
+        MaypoleGreen x = new MaypoleGreen();
+        due(x, text, green(x, text), dancers, 0);
+        due(text + ": fault(0)", x.fault(0), 0);
+        due(text + ": fault(1)", x.fault(1), MaypoleGreen.NONE);
+        return x;
+    }
+
+    void feastFault(MaypoleGreen x, String text, int kind, int place) {
+        faulty(x, text, feasts(x, text), kind, place);
+    }
+
+    void feastFine(MaypoleGreen x, String text, int steps) {
+        due(x, text, feasts(x, text), steps, 0);
+        due(text + ": fault(0)", x.fault(0), 0);
+        due(text + ": fault(1)", x.fault(1), MaypoleGreen.NONE);
+    }
+
     void end() {
         System.out.println(about + ": " + asked + " answers, " + wrong + " wrong");
         if (wrong > 0) {
@@ -75,7 +161,7 @@ final class Check {
         return x.feasts(text.length());
     }
 
-    /** A green of so many dancers a, b, c .. of the colours 0, 1, 2 .. (6 and 7 have 0, too). */
+    /** A green of so many dancers a, b, c .. of the colours 0, 1, 2 .. (the seventh has 0, too). */
     static String ring(int dancers) {
         StringBuilder b = new StringBuilder();
         for (int d = 0; d < dancers; d++) {

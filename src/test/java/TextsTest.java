@@ -69,65 +69,55 @@ public final class TextsTest {
         CHECK.due("told(1)", x.told(1), 7);
     }
 
-    private static void faulty(MaypoleGreen x, boolean green, String text, int kind, int place) {
-        CHECK.none(x, text, green ? Check.green(x, text) : Check.feasts(x, text), 9);
-        CHECK.due(text + ": fault(0)", x.fault(0), kind);
-        CHECK.due(text + ": fault(1)", x.fault(1), place);
-    }
-
-    private static void greenFault(String text, int kind, int place) {
-        faulty(new MaypoleGreen(), true, text, kind, place);
-    }
-
     private static void greenFaults() {
         MaypoleGreen x = new MaypoleGreen();
         CHECK.due("fault(2)", x.fault(2), -1);
         CHECK.due("fault(-1)", x.fault(-1), -1);
-        greenFault("odds 12345;", 1, 5);
-        greenFault("12345", 1, 0);
-        greenFault("Odds 1;", 1, 0);
-        greenFault("odds\t1;", 1, 4);
-        greenFault("odds 1.", 1, 6);
-        greenFault("odds " + (char) 233, 1, 5);
-        greenFault("odds over;", 2, 5);
-        greenFault("odds", 2, 4);
-        greenFault("odds 1 ", 2, 7);
-        greenFault("odds 1 1;", 2, 7);
-        greenFault("odds ;", 2, 5);
-        greenFault("oddss 1;", 2, 0);
-        greenFault(";", 2, 0);
-        greenFault("odds 1;;", 2, 7);
-        greenFault("7", 2, 0);
-        greenFault("back;", 2, 0);
-        greenFault("dancer 1", 2, 7);
-        greenFault("dancer abcdefghi colour 1;", 2, 7);
-        greenFault("dancer over colour 1;", 2, 7);
-        greenFault("dancer stop colour 1;", 2, 7);
-        greenFault("dancer a colours 1;", 2, 9);
-        greenFault("dancer a colour 6;", 4, 16);
-        greenFault("dancer a colour 1;dancer a colour 1;", 3, 25);
-        greenFault("odds 17;", 4, 5);
-        greenFault("long 0;", 4, 5);
-        greenFault("long 41;", 4, 5);
-        greenFault("pass 0 over;", 4, 5);
-        greenFault("dancer a colour 1;pass 0 over;", 4, 23);
-        greenFault(Check.ring(2) + "pass 1 over;", 4, 41);
-        greenFault(Check.ring(3) + "pass 3 over;", 4, 59);
-        greenFault(Check.ring(2) + "pass 0 above;", 2, 43);
-        greenFault(Check.ring(2) + "pass 0 over", 2, 47);
-        greenFault("odds 1;odds 99", 5, 7);
-        greenFault("long 1;long", 5, 7);
-        greenFault(Check.ring(2) + "pass 0 over;long 3;", 5, 48);
-        greenFault(Check.ring(2) + "pass 0 over;dancer c colour 1;", 5, 48);
-        greenFault("long 1;" + Check.ring(2) + "pass 0 over;pass 0 over;", 5, 62);
-        greenFault(Check.ring(7) + "dancer over", 6, 126);
-        greenFault(Check.ring(7) + "pass 0 over;dancer h colour 1;", 5, 138);
+        CHECK.greenFault("odds 12345;", 1, 5);
+        CHECK.greenFault("12345", 1, 0);
+        CHECK.greenFault("Odds 1;", 1, 0);
+        CHECK.greenFault("odds\t1;", 1, 4);
+        CHECK.greenFault("odds 1.", 1, 6);
+        CHECK.greenFault("odds " + (char) 233, 1, 5);
+        CHECK.greenFault("odds over;", 2, 5);
+        CHECK.greenFault("odds", 2, 4);
+        CHECK.greenFault("odds 1 ", 2, 7);
+        CHECK.greenFault("odds 1 1;", 2, 7);
+        CHECK.greenFault("odds ;", 2, 5);
+        CHECK.greenFault("oddss 1;", 2, 0);
+        CHECK.greenFault(";", 2, 0);
+        CHECK.greenFault("odds 1;;", 2, 7);
+        CHECK.greenFault("7", 2, 0);
+        CHECK.greenFault("back;", 2, 0);
+        CHECK.greenFault("dancer 1", 2, 7);
+        CHECK.greenFault("dancer abcdefghi colour 1;", 2, 7);
+        CHECK.greenFault("dancer over colour 1;", 2, 7);
+        CHECK.greenFault("dancer stop colour 1;", 2, 7);
+        CHECK.greenFault("dancer a colours 1;", 2, 9);
+        CHECK.greenFault("dancer a colour 6;", 4, 16);
+        CHECK.greenFault("dancer a colour 1;dancer a colour 1;", 3, 25);
+        CHECK.greenFault("odds 17;", 4, 5);
+        CHECK.greenFault("long 0;", 4, 5);
+        CHECK.greenFault("long 41;", 4, 5);
+        CHECK.greenFault("pass 0 over;", 4, 5);
+        CHECK.greenFault("dancer a colour 1;pass 0 over;", 4, 23);
+        CHECK.greenFault(Check.ring(2) + "pass 1 over;", 4, 41);
+        CHECK.greenFault(Check.ring(3) + "pass 3 over;", 4, 59);
+        CHECK.greenFault(Check.ring(2) + "pass 0 above;", 2, 43);
+        CHECK.greenFault(Check.ring(2) + "pass 0 over", 2, 47);
+        CHECK.greenFault("odds 1;odds 99", 5, 7);
+        CHECK.greenFault("long 1;long", 5, 7);
+        CHECK.greenFault(Check.ring(2) + "pass 0 over;long 3;", 5, 48);
+        CHECK.greenFault(Check.ring(2) + "pass 0 over;dancer c colour 1;", 5, 48);
+        CHECK.greenFault("long 1;" + Check.ring(2) + "pass 0 over;pass 0 over;", 5, 62);
+        CHECK.greenFault(Check.ring(7) + "dancer over", 6, 126);
+        CHECK.greenFault(Check.ring(7) + "pass 0 over;dancer h colour 1;", 5, 138);
         // odds may stand behind a pass, and what undoes needs no ribbon
         CHECK.due("a green", Check.green(x, "long 1;" + Check.ring(2) + "pass 0 over;pass 0 under;odds 3;"), 2);
         CHECK.due("told(2)", x.told(2), 0);
         // the first fault along the text
-        greenFault("odds 17; ?", 4, 5);
-        greenFault("odds ? 17", 1, 5);
+        CHECK.greenFault("odds 17; ?", 4, 5);
+        CHECK.greenFault("odds ? 17", 1, 5);
         // a plait of 40 is full
         StringBuilder full = new StringBuilder("long 40;" + Check.ring(2));
         for (int k = 0; k < 40; k++) {
@@ -135,12 +125,12 @@ public final class TextsTest {
         }
         CHECK.due("40 passes", Check.green(x, full.toString()), 2);
         CHECK.due("told(2)", x.told(2), 40);
-        greenFault(full + "pass 0 over;", 5, full.length() + 7);
+        CHECK.greenFault(full + "pass 0 over;", 5, full.length() + 7);
     }
 
     private static void feastFault(String text, int kind, int place) {
         MaypoleGreen x = Check.of(Check.ring(3));
-        faulty(x, false, text, kind, place);
+        CHECK.feastFault(x, text, kind, place);
         CHECK.none(x, "live(0) behind " + text, x.live(0), 6);
     }
 
@@ -183,14 +173,14 @@ public final class TextsTest {
         CHECK.due("fault(0)", x.fault(0), 0);
         CHECK.due(x, "steps", Check.feasts(x, "when plait=0;stop;end;when at c 2;end;when shows 2 6;back;end;"), 5, 0);
         // with a fault those ahead stay
-        faulty(x, false, "any", 2, 3);
+        CHECK.feastFault(x, "any", 2, 3);
         CHECK.due(x, "live(0)", x.live(0), 2, 0);
         // exactly 300 bytes can be
         CHECK.due(x, "300 bytes", Check.feasts(x, "any;" + " ".repeat(291) + "back;"), 2, 0);
         // who came has no name
         x = new MaypoleGreen();
         x.come(1);
-        faulty(x, false, "paint a 1;", 3, 6);
+        CHECK.feastFault(x, "paint a 1;", 3, 6);
     }
 
     private static void told() {
