@@ -214,6 +214,7 @@ final class AheadBounds {
         check.none(x, "slipAt(0, 40, 40)", x.slipAt(0, 40, 40), 6);
         check.due(x, "slips(0, 39)", x.slips(0, 39), 0, 0);
         check.due(x, "slips(0, 38): what is right has none", x.slips(0, 38), 0, 0);
+        check.none(x, "slipAt(0, 38, 0)", x.slipAt(0, 38, 0), 6);
         check.due(x, "slips(0, 0)", x.slips(0, 0), 0, 0);
         MaypoleGreen y = Check.of(Check.ring(5) + "pass 0 over;pass 2 over;pass 1 over;");
         Check.fill(y, 0, 1, 5, 2);
@@ -269,6 +270,7 @@ final class AheadBounds {
         z.paint(0, 5);
         check.due(z, "one row", z.fits(0, 1, 1), 1, 0);
         check.due(z, "over", z.fitsAt(0, 1, 1, 0), 13, 0);
+        ByDoing.seen(check);
     }
 
     private void ask() {
@@ -324,6 +326,7 @@ final class AheadBounds {
         check.due(z, "game(1)", z.game(1), 1, 0);
         check.due(z, "game(2): none of two can be taken away by one", z.game(2), 1, 0);
         check.due(z, "game(3)", z.game(3), 1, 0);
+        ByDoing.games(check);
     }
 
     private void move() {

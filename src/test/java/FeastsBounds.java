@@ -260,6 +260,16 @@ final class FeastsBounds {
         lives(Check.ring(2), "loop 99;back;end;", 0, 100, 99, 0, 0, 0, 0);
         lives(Check.ring(2), "loop 2;loop 3;loop 4;back;end;end;end;", 0, 33, 24, 0, 0, 0, 0);
         lives(Check.ring(2), "loop 99;pass 0 over;stop;end;pass 0 over;", 0, 3, 0, 1, 1, 0, 0);
+        // three within each other are done to the innermost, by mean(), too
+        MaypoleGreen x = lives(Check.ring(2), "when home a;when home b;when plait=0;pass 0 over;end;end;end;", 0, 4, 0, 1, 1, 0, 0);
+        x.back();
+        check.fraction(x, "mean(0, 1)", x.mean(0, 1), 1, 1);
+        check.feastFine(x, "loop 2;loop 1;loop 3;pass 0 over;end;end;end;", 4);
+        check.fraction(x, "mean(0, 1)", x.mean(0, 1), 6, 1);
+        // nothing of the loops is left for the next FEASTS
+        check.feastFine(x, "pass 0 over;pass 0 over;pass 0 over;pass 0 over;", 4);
+        check.due(x, "live(0)", x.live(0), 4, 0);
+        check.due("told(2)", x.told(2), 4);
     }
 
     private void most() {

@@ -201,6 +201,11 @@ final class PromiseBounds {
         check.due("told(0): the old one stays", x.told(0), 0);
         check.none(x, "green(1): the tape is empty", x.green(1), 1);
         check.due(x, "all seven", Check.green(x, Check.ring(7)), 7, 0);
+        // cut off in the midst of a NUMBER, of a WORD: what is behind n is not looked at
+        cut(x, "odds 16;", 6, 2, 6);
+        cut(x, "dancer ab colour 1;", 8, 2, 8);
+        cut(x, "odds 12345;", 9, 4, 5);
+        cut(x, " ".repeat(899) + "odds 1;", 900, 2, 899);
         check.says("Likewise the FEASTS: how many STEPS (1: above 300, too; 9).");
         Check.feed(x, "any;".repeat(20));
         check.none(x, "feasts(-1)", x.feasts(-1), 1);
@@ -213,6 +218,12 @@ final class PromiseBounds {
         Check.feasts(x, "any;any;");
         check.none(x, "a fault", Check.feasts(x, "any"), 9);
         check.due(x, "the old ones stay", x.live(1), 2, 0);
+    }
+
+    private void cut(MaypoleGreen x, String text, int n, int kind, int place) {
+        Check.feed(x, text);
+        check.none(x, "green(" + n + ") of " + text, x.green(n), 9);
+        faultIs(x, kind, place);
     }
 
     private void fault() {
@@ -251,7 +262,7 @@ final class PromiseBounds {
                 + "the GREEN was taken (those of its text not) (6); the sets of DANCERS who stand in their HOMES "
                 + "(1 for DANCER 0 ..) (7), of GAPS with a FREE PASS (1 for GAP 0 ..) (8); how many COLOURS SHOW, "
                 + "each once (9) (1).");
-        MaypoleGreen x = Check.of("odds 0;long 40;" + Check.ring(7) + "pass 6 over;pass 3 over;");
+        MaypoleGreen x = Check.of("odds 0;long 40;" + Check.ring(7) + "pass 1 over;pass 1 under;pass 6 over;pass 3 over;");
         check.range(x, "told(what)", 0, 9, what -> x.told(what));
         // g and a have changed places, and d and e; gap 6 shows g's 0, gap 3 d's 3
         int[] due = {7, 7, 2, 0, 40, 1, 0, 1 << 1 | 1 << 2 | 1 << 5, 1 << 6 | 1 << 3, 2};

@@ -364,5 +364,29 @@ final class TermsBounds {
         check.due(x, "the green of nobody", x.green(0), 0, 0);
         check.due("told(0)", x.told(0), 0);
         check.none(x, "live(0)", x.live(0), 6);
+        nothingIsLeft();
+    }
+
+    /** What a text told, taken or faulty, is not there for the next one. */
+    private void nothingIsLeft() {
+        MaypoleGreen x = new MaypoleGreen();
+        String[] texts = {
+            "odds 9;long 3;" + Check.ring(3) + "pass 0 over;pass 1 over;?", "odds 8;long 2;" + Check.ring(7),
+            "odds 7;long 1;" + Check.ring(2) + "pass 0 over;", "odds 6;odds", "long 5;long", Check.ring(8), "dancer b"
+        };
+        for (String text : texts) {
+            Check.green(x, text);
+            check.due(x, "behind " + text, Check.green(x, "dancer b colour 1;dancer a colour 2;"), 2, 0);
+            int[] told = {2, 1, 0, 2, 12, 0, 0, 3, 0, 0};
+            for (int what = 0; what < told.length; what++) {
+                check.due("told(" + what + ")", x.told(what), told[what]);
+            }
+            check.due("odds, long, a dancer and a pass can be told", Check.green(x, "odds 1;long 9;" + Check.ring(2) + "pass 0 over;"), 2);
+            check.due("told(2)", x.told(2), 1);
+        }
+        check.feastFault(x, "loop 1;loop 1;when home a;", 2, 26);
+        check.feastFault(x, "end;", 2, 0);
+        check.feastFault(x, "any;".repeat(31), 6, 120);
+        check.feastFine(x, "loop 1;loop 1;loop 1;any;end;end;end;", 4);
     }
 }
