@@ -15,6 +15,8 @@ final class ByDoing {
         "long 1;" + Check.ring(3),
         // one below the most PASSES
         "long 40;" + Check.ring(3) + "pass 0 over;pass 1 over;pass 2 over;".repeat(13),
+        // what shows in gap 1 hides by its undoing
+        Check.ring(3) + "pass 0 over;pass 0 over;pass 1 over;pass 1 over;",
         // few colours
         "dancer a colour 1;dancer b colour 1;dancer c colour 4;dancer d colour 1;pass 0 over;pass 2 over;",
         "long 2;dancer a colour 2;dancer b colour 3;pass 0 under;",
@@ -25,29 +27,40 @@ final class ByDoing {
 
     private final Check check;
     private final String green;
+    /** LONG once the PASSES of the text are done: if it is less than they took, what is undone can't be done again. */
+    private final int longThen;
     private final int gaps;
 
-    private ByDoing(Check check, String green) {
+    private ByDoing(Check check, String green, int longThen) {
         this.check = check;
         this.green = green;
+        this.longThen = longThen;
         this.gaps = Check.of(green).told(1);
     }
 
     static void seen(Check check) {
         for (String green : GREENS) {
-            new ByDoing(check, green).allSeen();
+            new ByDoing(check, green, Check.of(green).told(4)).allSeen();
+            new ByDoing(check, green, 1).allSeen();
         }
     }
 
     static void games(Check check) {
         for (String green : GREENS) {
-            new ByDoing(check, green).allGames();
+            new ByDoing(check, green, Check.of(green).told(4)).allGames();
+            new ByDoing(check, green, 1).allGames();
         }
+    }
+
+    private MaypoleGreen begun() {
+        MaypoleGreen x = Check.of(green);
+        x.rule(4, longThen);
+        return x;
     }
 
     /** An object behind these PASSES, null if one of them can't be; NONE is no PASS. */
     private MaypoleGreen behind(List<Integer> row) {
-        MaypoleGreen x = Check.of(green);
+        MaypoleGreen x = begun();
         for (int code : row) {
             if (code != MaypoleGreen.NONE && x.pass(code / 2, code % 2 == 1) < 0) {
                 return null;
@@ -132,7 +145,7 @@ final class ByDoing {
             }
         }
         String asked = green + java.util.Arrays.toString(twos) + " by " + k;
-        MaypoleGreen x = Check.of(green);
+        MaypoleGreen x = begun();
         Check.fill(x, 0, twos);
         // the row first: nothing that fits() left behind may be needed for it
         for (int place = k - 1; place >= 0; place--) {
@@ -173,7 +186,7 @@ final class ByDoing {
 
     private void allGames() {
         for (int n = 0; n <= 3; n++) {
-            MaypoleGreen x = Check.of(green);
+            MaypoleGreen x = begun();
             int due = worth(List.of(), n, true);
             int move = MaypoleGreen.NONE;
             for (int code = 2 * gaps - 1; code >= 0 && n > 0; code--) {
