@@ -320,10 +320,12 @@ final class Refusals {
         refused("mean", 1, x -> bit(x.mean(Integer.MAX_VALUE, 20)));
         refused("mean", 1, List.of(6), x -> x.green(0), x -> bit(x.mean(9981, 20)));
         refused("mean", 6, List.of(), x -> x.green(0), x -> bit(x.mean(0, 1)));
-        // a rich object has lived: one that has not can't be rich
-        MaypoleGreen x = Check.of(Check.ring(3));
+        // a rich object has lived: these have not
+        MaypoleGreen x = Check.of(Check.ring(3) + "pass 0 over;");
+        MaypoleGreen other = Check.of(Check.ring(3) + "pass 0 over;");
         check.none(x, "lived(5) ahead of any live()", x.lived(5), 1);
         check.none(x, "lived(4) ahead of any live()", x.lived(4), 6);
+        check.due("lived() with 6 changes nothing", Twins.answers(x, true).equals(Twins.answers(other, true)), true);
         met.get("lived").add(6);
         twos.computeIfAbsent("lived", key -> new HashSet<>()).add("1 ahead of 6");
     }
