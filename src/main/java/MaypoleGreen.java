@@ -964,8 +964,10 @@ public final class MaypoleGreen {
             return Math.max(0, longest - used[dancer]);
         }
 
+        /** Whether the PLAIT has room, and the two in a GAP have ribbon LEFT. */
         boolean canAdd(int gap) {
-            return plait.size < MOST_PASSES && left(standing[gap]) > 0 && left(standing[nextPlace(gap)]) > 0;
+            int next = nextPlace(gap);
+            return plait.size < MOST_PASSES && used[standing[gap]] < longest && used[standing[next]] < longest;
         }
 
         /** A PASS (GAP twice, 1 more if it is over): NONE if it can't be, else what takeBack() needs. */

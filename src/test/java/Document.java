@@ -2,6 +2,7 @@ import java.io.IOException;
 import java.nio.file.Files;
 import java.nio.file.Path;
 import java.util.ArrayList;
+import java.util.LinkedHashMap;
 import java.util.List;
 import java.util.Map;
 import java.util.TreeMap;
@@ -10,17 +11,24 @@ import java.util.regex.Pattern;
 
 /** The document's words: what a test quotes must stand in it, and what no test quotes can be told. */
 final class Document {
-    /** From "Terms" on, ahead of "Not promised", without headings and signatures, its blanks folded. */
+    /** All from the first line to the last, without headings, the code block and signatures, its blanks folded. */
     private final String words;
     private final boolean[] quoted;
     /** By the name of a call: the STATUSES in the brackets of its promise, in their order. */
     private final Map<String, List<Integer>> statuses = new TreeMap<>();
+    /** The members in the code block, one by one, without the sign behind them. */
+    private final List<String> face = new ArrayList<>();
+    /** By number, from 1 on: the signature of each promise. */
+    private final List<String> signatures = new ArrayList<>();
+    /** By what the interface says ahead of them: the calls of each group, in the document's order. */
+    private final Map<String, List<String>> groups = new LinkedHashMap<>();
 
     Document(Path file) throws IOException {
         String text = Files.readString(file);
-        text = text.substring(text.indexOf("## Terms"), text.indexOf("## Not promised"));
         readStatuses(text);
-        text = text.replaceAll("(?m)^(```|## |Ahead of the calls ).*$", " ");
+        readFace(text);
+        text = text.replaceAll("(?s)```java\\n.*?```", " ");
+        text = text.replaceAll("(?m)^(```|#+ ).*$", " ");
         text = text.replaceAll("(?m)^`[^`]*`: ", " ");
         words = folded(text.replaceAll("==== \\d\\.", " "));
         quoted = new boolean[words.length()];
@@ -46,6 +54,36 @@ final class Document {
             }
             statuses.put(promise.group(1), found);
         }
+    }
+
+    private void readFace(String text) {
+        String block = text.substring(text.indexOf("```java"), text.indexOf("}\n```"));
+        Matcher member = Pattern.compile("(?m)^    (public .*);$").matcher(block);
+        while (member.find()) {
+            face.add(member.group(1));
+        }
+        Matcher promise = Pattern.compile("(?m)^## Promise (\\d+): .*\\n\\n`([^`]*)`: ").matcher(text);
+        while (promise.find()) {
+            if (Integer.parseInt(promise.group(1)) == signatures.size() + 1) {
+                signatures.add(promise.group(2));
+            }
+        }
+        Matcher ahead = Pattern.compile("(?m)^Ahead of the calls (.*) the interface says: (.*)$").matcher(text);
+        while (ahead.find()) {
+            groups.put(ahead.group(2), List.of(ahead.group(1).replace("`", "").split(", ")));
+        }
+    }
+
+    List<String> face() {
+        return face;
+    }
+
+    List<String> signatures() {
+        return signatures;
+    }
+
+    Map<String, List<String>> groups() {
+        return groups;
     }
 
     Map<String, List<Integer>> statuses() {

@@ -9,6 +9,7 @@ public final class DocumentTest {
         Path root = Path.of(args.length > 0 ? args[0] : ".");
         Document document = new Document(root.resolve("../shared/DOC.md"));
         Check check = new Check("DocumentTest", document);
+        new FaceBounds(check, document, root.resolve("src/main/java/MaypoleGreen.java")).run();
         new TermsBounds(check).run();
         new PlaitBounds(check).run();
         new AheadBounds(check).run();

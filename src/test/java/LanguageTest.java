@@ -25,6 +25,7 @@ public final class LanguageTest {
         members();
         words(bare(Files.readString(source)));
         sizes(bare(Files.readString(source)));
+        depth(source);
         room();
         anyArguments();
         CHECK.end();
@@ -153,6 +154,15 @@ public final class LanguageTest {
                 begin = -1;
             }
         }
+    }
+
+    /** Eight deep, the library's calls among them; what calls itself has a bound: turns, PASSES ahead, blocks in blocks. */
+    private static void depth(Path source) throws IOException {
+        CallDepth calls = new CallDepth(source);
+        CHECK.due("methods read", calls.methods() > 100, true);
+        CHECK.due("calls deep: " + calls.deepest(), calls.deepest() <= 8, true);
+        Set<String> due = Set.of("worth", "extend", "doBlock", "doStep");
+        CHECK.due("calls itself: " + calls.recursive(), calls.recursive().equals(due), true);
     }
 
     // ---- the room
