@@ -61,6 +61,11 @@ final class FeastsBounds {
         check.feastFault(three(), "when plait;3;end;", 2, 10);
         check.feastFault(three(), "when plait 3;end;", 2, 11);
         check.feastFault(three(), "when plait<=3;end;", 2, 11);
+        // no sign of a text ahead stands in for one
+        MaypoleGreen x = new MaypoleGreen();
+        check.feastFault(x, "when plait 3;end;", 2, 11);
+        check.feastFault(x, "when plait<", 2, 11);
+        check.feastFault(x, "when plait 3;end;", 2, 11);
     }
 
     /** Cut off behind each TOKEN, and with a WORD there that can stand nowhere in FEASTS. */

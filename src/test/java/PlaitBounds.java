@@ -169,6 +169,9 @@ final class PlaitBounds {
         }
         x.rule(4, 1);
         check.none(x, "below none", x.pass(0, true), 7);
+        // c has a ribbon: he stands second in gap 1, first in gap 2
+        check.none(x, "below none, the first alone", x.pass(1, true), 7);
+        check.none(x, "below none, the second alone", x.pass(2, true), 7);
         check.due(x, "back()", x.back(), 2, 0);
         check.due("still none", x.dancer(0, 2), 0);
         x.rule(4, 40);
